@@ -126,6 +126,18 @@ public final class HousesTest {
         due.is("both", x.pact(3, 2000, 0), 1);
         due.is("so both", x.fewest(2000), 3);
         due.is("all is as it was", x.realm(0, 0) + x.realm(1, 0), 4000);
+        // realm 7 holds from 835 to 3748, whatever the two do: one, though of more bits, is fewer than two
+        TwoMetals y = Due.laid("r0,1000,0,200,1,2,0;r1,3000,0,200,1,3,0;r7,2000,999,200,1,3,0;m5,10;");
+        due.is("two hold", y.pact(3, 2000, 0), 1);
+        due.is("one holds", y.pact(128, 2000, 0), 1);
+        due.is("so one", y.fewest(2000), 128);
+        due.is("realm 0", Due.laid("r0,3000,0,0,1,2,0;m10,20;").fewest(2000), 1);
+        // any that stays outside takes a sack from the market, and one inside loses its last for it
+        StringBuilder eight = new StringBuilder("m5,10;");
+        for (int n = 0; n < 8; n++) {
+            eight.append('r').append(n).append(",3000,0,200,1,3,0;");
+        }
+        due.is("all eight", Due.laid(eight.toString()).fewest(2000), 255);
     }
 
     private void buying() {
@@ -160,6 +172,8 @@ public final class HousesTest {
             due.is("corner of " + gold, x.corner(0), wanted[gold]);
             due.is("all is as it was", x.market(0), 10);
         }
+        due.is("one is enough", Due.laid("r0,2000,0,200,1,0,0;m4,10;").corner(0), 1);
+        due.is("two are enough", Due.laid("r0,2000,0,200,2,0,0;m8,20;").corner(0), 2);
         // with two bought it never rests, so these are passed over
         due.is("all is a power of two", Due.laid("r0,2000,0,200,2,0,0;m4,10;").corner(0), 4);
         due.is("nothing to buy, none gone", Due.laid("r0,2000,0,200,2,0,0;m0,1;").corner(0), Due.NONE);

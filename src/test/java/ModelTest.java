@@ -3,7 +3,7 @@ import java.util.Random;
 
 /** Many runs of calls, made from fixed seeds, whose answers must be the plain model's. */
 public final class ModelTest {
-    private static final int RUNS = Integer.getInteger("runs", 1500);
+    private static final int RUNS = Integer.getInteger("runs", 600);
     private static final int FIRST = Integer.getInteger("first", 1);
     private static final int CALLS = 60;
 

@@ -190,7 +190,8 @@ public final class TextTest {
         due.is("limps no more", x.realm(3, 7), 0);
         due.is("scarcity is 1000 without", x.market(2), 2000);
         x.year();
-        due.is("no mines without", x.count(3), 17);
+        due.is("no mines of gold without", x.count(3), 17);
+        due.is("no mines of silver without", x.market(1) + x.realm(3, 4), 28000);
         due.is("stops no more", x.realm(3, 6), 1);
         x.wipe();
         Due.write(x, "r5,1500,0,0,0,0,0;");
@@ -198,6 +199,15 @@ public final class TextTest {
         due.is("the market is empty without", x.market(0) + x.market(1), 0);
         due.is("a realm that is told no more", x.realm(3, 0), Due.BAD);
         due.is("its gold is no more", x.count(3), 0);
+        due.is("its mint is no more", x.count(2), 1);
+        x.wipe();
+        Due.write(x, "g0,5,5;g3,1,1;");
+        x.lay();
+        x.wipe();
+        Due.write(x, "g0,2,2;");
+        x.lay();
+        Due.years(x, 4);
+        due.is("mines of an earlier text", x.market(0), 8);
     }
 
     private void lastWordsCount() {

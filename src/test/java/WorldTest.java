@@ -66,6 +66,8 @@ public final class WorldTest {
         due.is("ends(2, 1), though it limps", x.ends(2, 1), 1500);
         due.is("ends(3, 0), without a rest", x.ends(3, 0), 2000);
         due.is("ends(5, 1), without a rest", x.ends(5, 1), 2000);
+        // 1000000 by 1001 is 999 and a thousandth
+        due.is("the least is not cut", Due.laid("r0,1000,0,1,0,0,0;").ends(0, 0), 1000);
         x.move(4, 4000);
         due.is("ends(4, 0) of another law", x.ends(4, 0), 3715);
         due.is("ends(4, 1) of another law", x.ends(4, 1), 4315);
@@ -89,6 +91,7 @@ public final class WorldTest {
         due.is("a limping realm lets some in", movesAt(REALM + "l4;", 10, 10), 2);
         due.is("too little silver on the market", movesAt(REALM, 0, 1), 0);
         due.is("just enough silver on the market", movesAt(REALM, 0, 2), 1);
+        due.is("the market's last gold", movesAt(REALM, 1, 1), 2);
         due.is("no gold on the market", movesAt("r4,2000,0,0,0,100,3;", 0, 0), 0);
         due.is("too little silver in the realm", movesAt("r4,2000,0,0,5,1,3;", 10, 10), 0);
         due.is("just enough silver in the realm", movesAt("r4,2000,0,0,5,2,3;", 10, 10), 2);

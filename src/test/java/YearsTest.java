@@ -14,6 +14,7 @@ public final class YearsTest {
         test.resting();
         test.restThatNeverComes();
         test.restOfTheMostSacks();
+        test.sacksOfAllRealmsCount();
         test.goneMetals();
         test.stoppedMints();
         test.freeRatio();
@@ -74,6 +75,9 @@ public final class YearsTest {
             due.is("gold after year " + i, x.market(0), gold[i]);
             due.is("silver after year " + i, x.market(1), silver[i]);
         }
+        TwoMetals z = Due.laid("k500;m10,20;g0,10,0;");
+        z.year();
+        due.is("the scarcity stays", z.market(2), 500);
         TwoMetals y = Due.laid("g98,1,0;g99,10,0;");
         Due.years(y, 98);
         due.is("after year 97", y.market(0), 0);
@@ -146,6 +150,27 @@ public final class YearsTest {
         due.is("bought", y.bought(0, 0), Due.SPENT);
         due.is("pact", y.pact(1, 1000, 1), Due.SPENT);
         due.is("a dearer pact", y.pact(1, 2000, 1), 747);
+    }
+
+    /** Two such realms, of 100000 sacks of silver and some each. */
+    private static TwoMetals twoRichIn(int silver, int ofTheOther) {
+        TwoMetals x = Due.laid("r0,99999,0,0,1000," + silver + ",0;r5,99999,0,0,1000," + ofTheOther
+            + ",0;m0,99999;g0,0,9999;g35,9999,0;");
+        Due.years(x, 35);
+        x.rest();
+        Due.years(x, 70);
+        x.move(0, 1000);
+        x.move(5, 1000);
+        return x;
+    }
+
+    private void sacksOfAllRealmsCount() {
+        TwoMetals x = twoRichIn(1, 1);
+        due.is("rest()", x.rest(), 200000);
+        due.is("of realm 0", x.realm(0, 3), 100000);
+        due.is("of realm 5", x.realm(5, 3), 100000);
+        due.is("one more", twoRichIn(2, 1).rest(), Due.SPENT);
+        due.is("one more", twoRichIn(1, 2).rest(), Due.SPENT);
     }
 
     private void goneMetals() {
