@@ -14,6 +14,8 @@ public final class TextTest {
         test.faultsOfRealms();
         test.faultsOfOtherItems();
         test.placesOfFaults();
+        test.fullTexts();
+        test.wipedBytesAreGone();
         test.laying();
         test.layingAgain();
         test.lastWordsCount();
@@ -153,6 +155,25 @@ public final class TextTest {
         due.is("a lone letter", Due.faultOf("k5;m1,2;k"), 8);
         due.is("a sign behind an item", Due.faultOf("k5;;"), 3);
         due.is("an item's first byte, not the wrong one", Due.faultOf("k5;m10,x0;"), 3);
+    }
+
+    private void fullTexts() {
+        String most = "k1;".repeat(132);
+        due.is("400 bytes", Due.faultOf(most + "k01;"), Due.NONE);
+        due.is("400 bytes that end in figures", Due.faultOf(most + "k123"), 396);
+        due.is("400 bytes that end in a comma", Due.faultOf(most + "m12,"), 396);
+        due.is("400 bytes that end in a letter", Due.faultOf(most + "k1;k"), 399);
+    }
+
+    private void wipedBytesAreGone() {
+        String[] begun = {"k", "k5", "k55", "m", "m1", "m1,", "m1,2", "m1,22"};
+        for (String text : begun) {
+            TwoMetals x = new TwoMetals();
+            Due.write(x, text.charAt(0) == 'k' ? "k55;" : "m1,22;");
+            x.wipe();
+            Due.write(x, text);
+            due.is("fault of '" + text + "' where more was", x.fault(), 0);
+        }
     }
 
     private void laying() {
